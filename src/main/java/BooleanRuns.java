@@ -256,10 +256,6 @@ public final class BooleanRuns {
         return kind == RANGE || kind == CONSTANT || kind == TEST;
     }
 
-    private static boolean hasOnePart(int kind) {
-        return kind == CONSTANT || kind == TEST || kind == KEPT;
-    }
-
     private static boolean isRoleOf(int kind, int role) {
         return kind == BOOL && isWithin(role, SHOULD) || kind == BEST && role == SHOULD;
     }
@@ -406,7 +402,7 @@ public final class BooleanRuns {
             seconds[node] = second;
             asked[node] = 0;
             sizes[node] = 0;
-            if (hasOnePart(kind)) {
+            if (kind == CONSTANT || kind == TEST || kind == KEPT) {
                 add(node, MUST, first);
             }
             return node;
@@ -799,7 +795,9 @@ public final class BooleanRuns {
                     way[depth] = wanted;
                     depth++;
                 } else {
-                    settle(last, object);
+                    boolean fits = bounds.maybe(last, object) && fitsByParts(last, object);
+                    outcomes[last] = fits ? MATCHES : FAILS;
+                    scores[last] = fits ? scoreByParts(last, object) : 0L;
                     depth--;
                 }
             }
@@ -847,12 +845,6 @@ public final class BooleanRuns {
         private boolean holds(int part, int role, int object) {
             boolean free = role == FILTER || role == NOT;
             return outcomes[part] == MATCHES || free && bounds.surely(part, object);
-        }
-
-        private void settle(int node, int object) {
-            boolean fits = bounds.maybe(node, object) && fitsByParts(node, object);
-            outcomes[node] = fits ? MATCHES : FAILS;
-            scores[node] = fits ? scoreByParts(node, object) : 0L;
         }
 
         /** LIST, RANGE, NOTHING and a SET match where MAY is so. */
@@ -1142,7 +1134,8 @@ public final class BooleanRuns {
             markUnder(top);
             for (int node = 0; node <= top; node++) {
                 if (under[node]) {
-                    news[node] = newOf(node);
+                    int anew = newOf(node);
+                    news[node] = anew == NONE ? thatIsSo(NOTHING, 0, 0) : anew;
                     if (news[node] < 0) {
                         nodes.shrinkTo(before);
                         return FULL;
@@ -1164,13 +1157,14 @@ public final class BooleanRuns {
             }
         }
 
+        /** NONE stands for the NOTHING that is so. */
         private int newOf(int node) {
             int kind = nodes.kind(node);
             switch (kind) {
                 case LIST:
-                    return lists.size(nodes.first(node)) == 0 ? nothing() : thatIsSo(kind, nodes.first(node), 0);
+                    return lists.size(nodes.first(node)) == 0 ? NONE : thatIsSo(kind, nodes.first(node), 0);
                 case BOOL:
-                    return gatherBool(node) ? boolOfRow(nodes.first(node)) : nothing();
+                    return gatherBool(node) ? boolOfRow(nodes.first(node)) : NONE;
                 case BEST:
                     return newOfBest(node);
                 case CONSTANT:
@@ -1202,7 +1196,7 @@ public final class BooleanRuns {
                 }
             }
             if (row.size() == 0) {
-                return nothing();
+                return NONE;
             }
             return row.size() == 1 ? row.partAt(0) : thatIsSoWithRow(BEST, nodes.first(node));
         }
@@ -1251,11 +1245,11 @@ public final class BooleanRuns {
             int least = outerLeast;
             int shoulds = row.countOf(SHOULD);
             if (least > shoulds) {
-                return nothing();
+                return NONE;
             }
             if (row.countOf(MUST) == 0 && row.countOf(FILTER) == 0) {
                 if (shoulds == 0) {
-                    return nothing();
+                    return NONE;
                 }
                 least = Math.max(least, 1);
             }
@@ -1264,17 +1258,13 @@ public final class BooleanRuns {
                 least = 0;
             }
             if (row.contradictsItself()) {
-                return nothing();
+                return NONE;
             }
             row.leaveOutRepeats();
             if (row.size() == 1 && row.roleAt(0) == MUST) {
                 return row.partAt(0);
             }
             return thatIsSoWithRow(BOOL, least);
-        }
-
-        private int nothing() {
-            return thatIsSo(NOTHING, 0, 0);
         }
 
         private int thatIsSo(int kind, int first, int second) {

@@ -610,6 +610,10 @@ public final class PromiseTests {
         due("still there", x.told(kept, 6), 4);
         x.rewrite(above);
         due("a rewriting leaves it", x.told(kept, 6), 4);
+        x.take(1, 4);
+        due("keep with fewer", x.keep(kept), 3);
+        due("what went is not in it", x.may(kept, 4), false);
+        due("what stayed is", x.may(kept, 3), true);
         due("an empty set", x.keep(x.node(KEPT, x.node(NOTHING, 0, 0), 0)), 0);
         due("is a set", x.sum(4), 2);
     }
@@ -890,8 +894,31 @@ public final class PromiseTests {
         x.take(0, 1);
         due("objects", x.sum(1), 6);
         due("sets", x.sum(4), 0);
+        allNodesAndParts();
         due("what 5", x.sum(5), BAD);
         for (int w : WILD) due("wild", x.sum(w), BAD);
+    }
+
+    /** 80 NODES, the last with all the PARTS that one can have. */
+    private static void allNodesAndParts() {
+        BooleanRuns x = threeLists();
+        int test = x.node(TEST, 0, test(1, 1, 1));
+        int kept = x.node(KEPT, test, 0);
+        while (x.sum(0) < 79) x.node(BOOL, 8, 0);
+        int last = group(x, BOOL, 3, MUST, test, SHOULD, 0, SHOULD, 1, SHOULD, 2, SHOULD, test, SHOULD, 0, NOT, 78, FILTER, kept);
+        due("all nodes", x.sum(0), 80);
+        due("all parts", x.told(last, 3), 8);
+        dueFound(x, last, 1, 40, 2, 280, 3, 425);
+        due("asked", x.sum(2), 3);
+        due("keep", x.keep(kept), 3);
+        due("asked", x.sum(2), 6);
+        due("put", x.put(0, 1, 11), 3);
+        due("sets", x.sum(4), 0);
+        due("keep", x.keep(kept), 3);
+        due("part", x.part(78, SHOULD, 0), 1);
+        due("the set is not over it", x.sum(4), 1);
+        due("rewrite without a new one", x.rewrite(test), test);
+        due("rewrite with a new one", x.rewrite(last), FULL);
     }
 
     public static void main(String[] args) {
