@@ -193,7 +193,17 @@ public final class ModelTests {
         return agreeOn(9);
     }
 
-    private boolean agreeOnRun(int calls) {
+    /** LISTS, NODES, PARTS and ITERATORS that have room for little more, or none. */
+    private boolean agreeOnFilling() {
+        for (int i = 56 + below(5); i > 0; i--) if (!agreeOn(0, 0, i * 8, weight())) return false;
+        for (int count = 72 + below(9); model.sum(0) < count;) if (!agreeOn(with(2, nodeArguments()))) return false;
+        for (int i = 0; i < 90; i++) if (!agreeOn(with(3, partArguments()))) return false;
+        for (int i = 5 + below(4); i > 0; i--) if (!agreeOn(14, anyNode())) return false;
+        return true;
+    }
+
+    private boolean agreeOnRun(int calls, boolean full) {
+        if (full && !agreeOnFilling()) return false;
         for (int i = 0; i < calls; i++) {
             if (!agreeOn(draw())) return false;
             if (i % 64 == 63 && !agreeOnAll()) return false;
@@ -245,7 +255,7 @@ public final class ModelTests {
         int wrong = 0;
         for (int i = first; i < first + runs && wrong < 3; i++) {
             ModelTests t = new ModelTests(i);
-            if (!t.agreeOnRun(i % 2 == 0 ? 200 : 500)) {
+            if (!t.agreeOnRun(i % 2 == 0 ? 200 : 500, i % 4 == 0)) {
                 wrong++;
                 System.out.println("seed " + i);
             }

@@ -1,69 +1,7 @@
 /** For each promise of the document its ordinary answers, its edges and its wrong inputs, worked out by hand. */
-public final class PromiseTests {
-    private static final int NONE = -1, BAD = -2, FULL = -3, STATE = -4;
-    private static final int LIST = 0, RANGE = 1, BOOL = 2, BEST = 3, CONSTANT = 4, TEST = 5, KEPT = 6, NOTHING = 7;
-    private static final int MUST = 0, FILTER = 1, NOT = 2, SHOULD = 3;
-    private static final int[] WILD = {-1, Integer.MIN_VALUE, Integer.MAX_VALUE};
-
-    private static int checks = 0;
-    private static int wrong = 0;
-    private static String promise = "";
-
-    private static void due(String what, long got, long want) {
-        checks++;
-        if (got != want) {
-            wrong++;
-            System.out.println(promise + ": " + what + " answered " + got + ", due is " + want);
-        }
-    }
-
-    private static void due(String what, boolean got, boolean want) {
-        due(what, got ? 1 : 0, want ? 1 : 0);
-    }
-
-    /** A node with parts given as role, node, role, node. */
-    private static int group(BooleanRuns x, int kind, int number, int... parts) {
-        int node = x.node(kind, number, 0);
-        for (int i = 0; i < parts.length; i += 2) {
-            x.part(node, parts[i], parts[i + 1]);
-        }
-        return node;
-    }
-
-    private static void dueParts(BooleanRuns x, int node, int kind, int number, int... parts) {
-        due("kind of " + node, x.told(node, 0), kind);
-        due("number of " + node, x.told(node, 1), number);
-        due("parts of " + node, x.told(node, 3), parts.length / 2);
-        for (int i = 0; i < parts.length / 2; i++) {
-            due("role " + i + " of " + node, x.partOf(node, i, 0), parts[2 * i]);
-            due("part " + i + " of " + node, x.partOf(node, i, 1), parts[2 * i + 1]);
-        }
-    }
-
-    private static void dueFound(BooleanRuns x, int node, long... objectsAndScores) {
-        due("run(" + node + ")", x.run(node), objectsAndScores.length / 2);
-        for (int k = 0; k < objectsAndScores.length / 2; k++) {
-            due("found(" + k + ") by " + node, x.found(k), objectsAndScores[2 * k]);
-            due("score(" + k + ") by " + node, x.score(k), objectsAndScores[2 * k + 1]);
-        }
-    }
-
-    private static int test(int a, int m, int r) {
-        return a * 1000000 + m * 1000 + r;
-    }
-
-    /** List 0 has 1, 2, 3 with weights 10, 20, 30; list 1 has 2, 3, 4 with 200, 300, 400; list 2 has 3 with 5. */
-    private static BooleanRuns threeLists() {
-        BooleanRuns x = new BooleanRuns();
-        for (int o = 1; o <= 3; o++) x.put(0, o, 10 * o);
-        for (int o = 2; o <= 4; o++) x.put(1, o, 100 * o);
-        x.put(2, 3, 5);
-        for (int list = 0; list < 3; list++) x.node(LIST, list, 0);
-        return x;
-    }
-
+public final class PromiseTests extends Checks {
     private static void promise1() {
-        promise = "1 new object";
+        sentence("1 new object");
         BooleanRuns x = new BooleanRuns();
         for (int what = 0; what <= 4; what++) due("sum(" + what + ")", x.sum(what), 0);
         for (int list = 0; list < 16; list++) due("take", x.take(list, 0), STATE);
@@ -85,7 +23,7 @@ public final class PromiseTests {
     }
 
     private static void promise2() {
-        promise = "2 put";
+        sentence("2 put");
         BooleanRuns x = new BooleanRuns();
         due("the first", x.put(15, 511, 1000000), 1);
         due("another weight", x.put(15, 511, 0), 1);
@@ -111,7 +49,7 @@ public final class PromiseTests {
     }
 
     private static void promise3() {
-        promise = "3 take";
+        sentence("3 take");
         BooleanRuns x = new BooleanRuns();
         x.put(0, 10, 100);
         x.put(0, 20, 200);
@@ -133,7 +71,7 @@ public final class PromiseTests {
     }
 
     private static void promise4() {
-        promise = "4 node";
+        sentence("4 node");
         BooleanRuns x = new BooleanRuns();
         for (int kind = 4; kind <= 6; kind++) due("a part that is not there", x.node(kind, 0, test(1, 1, 1)), BAD);
         due("LIST", x.node(LIST, 15, -5), 0);
@@ -178,7 +116,7 @@ public final class PromiseTests {
     }
 
     private static void promise5() {
-        promise = "5 part";
+        sentence("5 part");
         BooleanRuns x = new BooleanRuns();
         x.node(LIST, 0, 0);
         x.node(BOOL, 0, 0);
@@ -209,7 +147,7 @@ public final class PromiseTests {
     }
 
     private static void promise6() {
-        promise = "6 told";
+        sentence("6 told");
         BooleanRuns x = threeLists();
         int range = x.node(RANGE, 100, 199);
         int bool = group(x, BOOL, 2, SHOULD, 0, SHOULD, 1, NOT, range);
@@ -258,7 +196,7 @@ public final class PromiseTests {
     }
 
     private static void promise7() {
-        promise = "7 partOf";
+        sentence("7 partOf");
         BooleanRuns x = threeLists();
         int bool = group(x, BOOL, 0, NOT, 2, FILTER, 0);
         int constant = x.node(CONSTANT, bool, 5);
@@ -280,13 +218,8 @@ public final class PromiseTests {
         }
     }
 
-    private static void dueBounds(BooleanRuns x, String what, int node, int object, boolean may, boolean sure) {
-        due("may of " + what, x.may(node, object), may);
-        due("sure of " + what, x.sure(node, object), sure);
-    }
-
     private static void promises8And9() {
-        promise = "8 may, 9 sure";
+        sentence("8 may, 9 sure");
         BooleanRuns x = threeLists();
         int never = x.node(TEST, 0, test(1, 1, 0));
         dueBounds(x, "LIST", 0, 1, true, true);
@@ -339,7 +272,7 @@ public final class PromiseTests {
     }
 
     private static void promise10() {
-        promise = "10 look";
+        sentence("10 look");
         BooleanRuns x = threeLists();
         due("LIST", x.look(0, 1), 1);
         due("LIST without it", x.look(0, 4), 0);
@@ -470,7 +403,7 @@ public final class PromiseTests {
     }
 
     private static void promise11() {
-        promise = "11 scored";
+        sentence("11 scored");
         BooleanRuns x = threeLists();
         due("ahead of any", x.scored(), 0);
         x.look(0, 2);
@@ -520,7 +453,7 @@ public final class PromiseTests {
     }
 
     private static void promises12To14() {
-        promise = "12 run, 13 found, 14 score";
+        sentence("12 run, 13 found, 14 score");
         BooleanRuns x = threeLists();
         dueFound(x, 0, 1, 10, 2, 20, 3, 30);
         due("found behind the last", x.found(3), NONE);
@@ -551,7 +484,7 @@ public final class PromiseTests {
     }
 
     private static void promise15() {
-        promise = "15 keep";
+        sentence("15 keep");
         BooleanRuns x = threeLists();
         int test = x.node(TEST, 0, test(1, 2, 1));
         int kept = x.node(KEPT, test, 0);
@@ -619,7 +552,7 @@ public final class PromiseTests {
     }
 
     private static void promises16To18() {
-        promise = "16 open, 17 next, 18 close";
+        sentence("16 open, 17 next, 18 close");
         BooleanRuns x = threeLists();
         due("no such node", x.open(3), BAD);
         for (int i = 0; i < 8; i++) due("open", x.open(i % 3), i);
@@ -671,7 +604,7 @@ public final class PromiseTests {
     }
 
     private static void promise19() {
-        promise = "19 rewrite";
+        sentence("19 rewrite");
         BooleanRuns x = threeLists();
         due("no such node", x.rewrite(3), BAD);
         for (int w : WILD) due("wild", x.rewrite(w), BAD);
@@ -870,7 +803,7 @@ public final class PromiseTests {
     }
 
     private static void promise20() {
-        promise = "20 sum";
+        sentence("20 sum");
         BooleanRuns x = threeLists();
         int test = x.node(TEST, 0, test(1, 1, 1));
         int other = x.node(TEST, 1, test(1, 1, 1));
@@ -937,7 +870,6 @@ public final class PromiseTests {
         promises16To18();
         promise19();
         promise20();
-        System.out.println("PromiseTests: " + checks + " checks, " + wrong + " wrong");
-        if (wrong > 0) System.exit(1);
+        finish("PromiseTests");
     }
 }
