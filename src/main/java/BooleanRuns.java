@@ -915,12 +915,15 @@ public final class BooleanRuns {
 
         private long scoreOfBest(int node) {
             long together = 0L;
-            long greatest = Long.MIN_VALUE;
+            long greatest = 0L;
+            boolean some = false;
             for (int i = 0; i < nodes.size(node); i++) {
                 int part = nodes.partAt(node, i);
                 if (outcomes[part] == MATCHES) {
                     together += scores[part];
-                    greatest = Math.max(greatest, scores[part]);
+                    // the first is the greatest so far even if it wrapped below 0
+                    greatest = some ? Math.max(greatest, scores[part]) : scores[part];
+                    some = true;
                 }
             }
             return greatest + (together - greatest) * nodes.first(node) / 100L;

@@ -100,7 +100,22 @@ public final class LanguageTests {
             must(Set.of("java.util.Arrays", "java.util.ArrayList", "java.util.List").contains(imports.group(1)),
                 "the source imports " + imports.group(1));
         }
+        checkLibrary(code);
         checkLengths(code);
+    }
+
+    /** Rule 4 lets in functions of these classes and none of their constants, which the compiled class would not show. */
+    private static void checkLibrary(String code) {
+        Set<String> ofArrays = Set.of("fill", "copyOf", "copyOfRange");
+        Matcher uses = Pattern.compile("\\b(Integer|Long|Math|Arrays)\\s*\\.\\s*(\\w+)\\s*(\\(?)").matcher(code);
+        while (uses.find()) {
+            String name = uses.group(1) + "." + uses.group(2);
+            must(uses.group(3).equals("("), name + " is not a function");
+            must(!name.startsWith("Arrays.") || ofArrays.contains(uses.group(2)), name + " is not in rule 4");
+            must(!name.endsWith("Exact"), name + " may throw");
+        }
+        must(!Pattern.compile("\\b(Short|Byte|Character|Boolean|Double|Float|Objects)\\b").matcher(code).find(),
+            "a class of the library that rule 4 does not name");
     }
 
     private static void checkLengths(String code) {
